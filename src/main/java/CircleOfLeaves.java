@@ -52,7 +52,7 @@ public final class CircleOfLeaves {
         if (!isLetter(sign) && !isGap(sign)) {
             throw new IllegalArgumentException("no letter, blank or hyphen");
         }
-        if (draft.signCount == MOST_SIGNS) {
+        if (draft.signCount >= MOST_SIGNS) {
             throw new IllegalStateException("the draft is full");
         }
         draft.add(sign);
@@ -80,7 +80,7 @@ public final class CircleOfLeaves {
         if (worth < 0 || worth > MOST_WORTH) {
             throw new IllegalArgumentException("worth out of range");
         }
-        if (articleCount == MOST_ARTICLES || !draft.hasLetter()) {
+        if (articleCount >= MOST_ARTICLES || !draft.hasLetter()) {
             throw new IllegalStateException("no more articles, or no letter in the draft");
         }
         Article made = articles[articleCount];
@@ -106,7 +106,7 @@ public final class CircleOfLeaves {
     public int refer(int article) throws IndexOutOfBoundsException, IllegalStateException {
         requireArticle(article);
         Article from = articles[article];
-        if (from.isPrinted || from.referenceCount == MOST_REFERENCES || !draft.hasLetter()) {
+        if (from.isPrinted || from.referenceCount >= MOST_REFERENCES || !draft.hasLetter()) {
             throw new IllegalStateException("printed, full, or no letter in the draft");
         }
         from.references[from.referenceCount].headword.take(draft);
@@ -152,7 +152,7 @@ public final class CircleOfLeaves {
         if (volumeCount > 0 && last <= volumes[volumeCount - 1].lastLetter) {
             throw new IllegalArgumentException("not behind the volume ahead");
         }
-        if (volumeCount == MOST_VOLUMES) {
+        if (volumeCount >= MOST_VOLUMES) {
             throw new IllegalStateException("no more volumes");
         }
         volumes[volumeCount].lastLetter = last;
@@ -164,7 +164,7 @@ public final class CircleOfLeaves {
         if (pace < 1 || pace > MOST_PACE) {
             throw new IllegalArgumentException("pace out of range");
         }
-        if (contributorCount == MOST_CONTRIBUTORS) {
+        if (contributorCount >= MOST_CONTRIBUTORS) {
             throw new IllegalStateException("no more contributors");
         }
         contributors[contributorCount].pace = pace;

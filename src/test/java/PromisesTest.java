@@ -44,6 +44,7 @@ public final class PromisesTest {
         promise25Contradictions();
         promise26ReadAnew();
         promise27Synopsis();
+        allAtTheirMost();
         System.out.println(passed + " passed, " + failed + " failed");
         if (failed > 0) {
             System.exit(1);
@@ -421,6 +422,9 @@ public final class PromisesTest {
         y.give(1, 1);
         isThrown("it refers to an enemy's article", STATE, () -> y.give(0, 0));
         is("one's own articles", y.give(0, 1), 2);
+        make(y, "c", 0, 1);
+        refer(y, 2, "a");
+        isThrown("it refers to the first article, an enemy's", STATE, () -> y.give(2, 0));
         y.die(1);
         is("given back, without a contributor", y.give(0, 0), 1);
     }
@@ -448,8 +452,10 @@ public final class PromisesTest {
             is("given back, not begun", x.about(i, 4), CircleOfLeaves.NONE);
         }
         is("nothing is written by a dead one", x.pass(50), 0);
-        is("given anew", x.give(2, 1), 1);
-        is("begun anew", x.about(2, 4), 52);
+        is("given anew", x.give(1, 1), 1);
+        is("begun anew", x.about(1, 4), 52);
+        is("written once, by the other", x.pass(1), 1);
+        is("another one given anew", x.give(2, 1), 1);
         is("die with one to write", x.die(1), 1);
         CircleOfLeaves y = new CircleOfLeaves();
         y.contributor(1);
@@ -951,5 +957,52 @@ public final class PromisesTest {
         is("still by a step", x.synopsis(8), 1);
         isThrown("subject 10", BOUNDS, () -> x.synopsis(10));
         isThrown("subject -1", BOUNDS, () -> x.synopsis(-1));
+        for (int i = 1; i < 10; i++) {
+            x.under(i, i - 1);
+        }
+        is("by nine steps", x.synopsis(0), 3);
+        is("by eight steps", x.synopsis(1), 2);
+    }
+
+    private static void allAtTheirMost() {
+        CircleOfLeaves x = new CircleOfLeaves();
+        for (int i = 0; i < 24; i++) {
+            make(x, "" + (char) ('z' - i), i % 10, 1 + i % 9);
+            for (int r = 0; r < 4; r++) {
+                refer(x, i, "" + (char) ('a' + (i + 7 * r) % 26));
+            }
+            x.use(i, i % 8);
+            x.forbid(i, i % 2 == 0);
+        }
+        for (int i = 0; i < 4; i++) {
+            x.volume("gmtz".charAt(i), 99);
+        }
+        for (int i = 0; i < 6; i++) {
+            x.contributor(9);
+        }
+        for (int i = 0; i < 23; i++) {
+            is("give", x.give(i, 0), i + 1);
+        }
+        is("the last place", x.at(23), 0);
+        is("no place behind", x.at(24), CircleOfLeaves.NONE);
+        is("the last letter's article", x.about(23, 1), 0);
+        is("give the last one", x.give(23, 0), 24);
+        x.pass(50);
+        x.pass(50);
+        is("all are written", x.about(23, 0), CircleOfLeaves.WRITTEN);
+        is("print 0", x.print(0), 5);
+        x.change(7, 1);
+        is("supplement, with one fact to tell", x.supplement(), 1);
+        is("print 1", x.print(1), 6);
+        is("print 2", x.print(2), 7);
+        is("print 3", x.print(3), 6);
+        is("all are printed", x.about(0, 0) + x.about(23, 0), 2 * CircleOfLeaves.PRINTED);
+        is("those of subject 3", x.synopsis(3), 3);
+        // Articles are there for c to z; a is never promised, since its volume is the first to be printed.
+        is("struck", x.struck(), 8);
+        is("open", x.open(true), 0);
+        is("contradictions", x.contradictions(true), 0);
+        x.die(0);
+        isThrown("give to the dead one", STATE, () -> x.give(23, 0));
     }
 }

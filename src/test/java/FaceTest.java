@@ -1,0 +1,197 @@
+import java.lang.reflect.Constructor;
+import java.lang.reflect.Field;
+import java.lang.reflect.Member;
+import java.lang.reflect.Method;
+import java.lang.reflect.Modifier;
+import java.nio.charset.StandardCharsets;
+import java.nio.file.Files;
+import java.nio.file.Path;
+import java.util.ArrayList;
+import java.util.List;
+import java.util.Set;
+import java.util.TreeSet;
+import java.util.regex.Matcher;
+import java.util.regex.Pattern;
+
+/** Tests that the class has the document's face and nothing beside it, and keeps to what LANGUAGE.md rules out. */
+public final class FaceTest {
+    private static final String BOUNDS = " IndexOutOfBoundsException";
+    private static final String ARGUMENT = " IllegalArgumentException";
+    private static final String STATE = " IllegalStateException";
+
+    private static final Set<String> FACE = new TreeSet<>(List.of(
+            "int sign(char)" + ARGUMENT + STATE,
+            "int erase()",
+            "boolean rule(boolean)" + STATE,
+            "int article(int,int)" + BOUNDS + ARGUMENT + STATE,
+            "int under(int,int)" + BOUNDS + ARGUMENT,
+            "int refer(int)" + BOUNDS + STATE,
+            "boolean use(int,int)" + BOUNDS + STATE,
+            "int change(int,int)" + BOUNDS,
+            "boolean forbid(int,boolean)" + BOUNDS + STATE,
+            "int volume(char,int)" + ARGUMENT + STATE,
+            "int contributor(int)" + ARGUMENT + STATE,
+            "boolean quarrel(int,int)" + BOUNDS + ARGUMENT,
+            "int give(int,int)" + BOUNDS + STATE,
+            "int die(int)" + BOUNDS + STATE,
+            "int pass(int)" + ARGUMENT,
+            "int print(int)" + BOUNDS + STATE,
+            "int supplement()" + STATE,
+            "int month()",
+            "int at(int)" + BOUNDS,
+            "int about(int,int)" + BOUNDS + ARGUMENT,
+            "int struck()",
+            "int errata(int)" + BOUNDS,
+            "int open(boolean)",
+            "int contradictions(boolean)",
+            "int readAnew(boolean)",
+            "int synopsis(int)" + BOUNDS));
+
+    private static final Set<String> CONSTANTS = new TreeSet<>(List.of("NONE", "PLANNED", "GIVEN", "WRITTEN",
+            "PRINTED"));
+
+    private static final String[] RULED_OUT = {"\\btry\\b", "\\bcatch\\b", "\\bfinally\\b", "\\bsynchronized\\b",
+        "\\bassert\\b", "->", "::", "\\bimport\\b", "\\bpackage\\b", "static\\s*\\{", "\\bequals\\s*\\(",
+        "\\bhashCode\\b", "\\btoString\\b", "\\bdouble\\b", "\\bfloat\\b", "Exact\\s*\\(", "\\binstanceof\\b",
+        "\\bprotected\\b", "\\bvar\\b", "\\bwhile\\b", "[^\\x00-\\x7f]"};
+
+    private static int passed = 0;
+    private static int failed = 0;
+
+    public static void main(String[] args) throws Exception {
+        methods();
+        constants();
+        constructors();
+        classesInside();
+        String code = withoutComments(Files.readString(Path.of("src/main/java/CircleOfLeaves.java"),
+                StandardCharsets.UTF_8));
+        for (String pattern : RULED_OUT) {
+            Matcher matcher = Pattern.compile(pattern).matcher(code);
+            is("not in the program: " + pattern, !matcher.find());
+        }
+        exceptions(code);
+        lengths(code);
+        System.out.println(passed + " passed, " + failed + " failed");
+        if (failed > 0) {
+            System.exit(1);
+        }
+    }
+
+    private static void is(String what, boolean isSo) {
+        if (isSo) {
+            passed++;
+        } else {
+            failed++;
+            System.out.println("not so: " + what);
+        }
+    }
+
+    private static String told(Method method) {
+        List<String> parameters = new ArrayList<>();
+        for (Class<?> type : method.getParameterTypes()) {
+            parameters.add(type.getName());
+        }
+        StringBuilder row = new StringBuilder();
+        row.append(method.getReturnType().getName()).append(' ').append(method.getName()).append('(');
+        row.append(String.join(",", parameters)).append(')');
+        for (Class<?> type : method.getExceptionTypes()) {
+            row.append(' ').append(type.getSimpleName());
+        }
+        return row.toString();
+    }
+
+    private static void methods() {
+        Set<String> open = new TreeSet<>();
+        Set<String> openNames = new TreeSet<>();
+        for (Method method : CircleOfLeaves.class.getDeclaredMethods()) {
+            if (Modifier.isPublic(method.getModifiers())) {
+                open.add(told(method));
+                openNames.add(method.getName());
+                is("not static: " + method.getName(), !Modifier.isStatic(method.getModifiers()));
+            }
+        }
+        is("the face is " + FACE + ", not " + open, FACE.equals(open));
+        for (Method method : CircleOfLeaves.class.getDeclaredMethods()) {
+            if (!Modifier.isPublic(method.getModifiers())) {
+                isPrivate(method);
+                is("no name of the face: " + method.getName(), !openNames.contains(method.getName()));
+            }
+        }
+        is("public and final", Modifier.isPublic(CircleOfLeaves.class.getModifiers())
+                && Modifier.isFinal(CircleOfLeaves.class.getModifiers()));
+    }
+
+    private static void isPrivate(Member member) {
+        is("private: " + member, Modifier.isPrivate(member.getModifiers()) || member.isSynthetic());
+    }
+
+    private static void constants() {
+        Set<String> open = new TreeSet<>();
+        for (Field field : CircleOfLeaves.class.getDeclaredFields()) {
+            int modifiers = field.getModifiers();
+            if (Modifier.isPublic(modifiers)) {
+                open.add(field.getName());
+                is("a constant: " + field, Modifier.isStatic(modifiers) && field.getType() == int.class);
+            } else {
+                isPrivate(field);
+            }
+            is("static and final: " + field, !Modifier.isStatic(modifiers) || Modifier.isFinal(modifiers));
+        }
+        is("the constants are " + CONSTANTS + ", not " + open, CONSTANTS.equals(open));
+        is("NONE", CircleOfLeaves.NONE == -1);
+        is("PLANNED to PRINTED", CircleOfLeaves.PLANNED == 0 && CircleOfLeaves.GIVEN == 1
+                && CircleOfLeaves.WRITTEN == 2 && CircleOfLeaves.PRINTED == 3);
+    }
+
+    private static void constructors() {
+        Constructor<?>[] made = CircleOfLeaves.class.getDeclaredConstructors();
+        is("one constructor", made.length == 1 && made[0].getParameterCount() == 0
+                && Modifier.isPublic(made[0].getModifiers()) && made[0].getExceptionTypes().length == 0);
+    }
+
+    private static void classesInside() {
+        Class<?>[] inside = CircleOfLeaves.class.getDeclaredClasses();
+        is("some twelve classes at the most", inside.length < 12);
+        for (Class<?> one : inside) {
+            is("private and static: " + one, Modifier.isPrivate(one.getModifiers())
+                    && Modifier.isStatic(one.getModifiers()));
+            is("some twenty fields at the most: " + one, one.getDeclaredFields().length <= 20);
+        }
+    }
+
+    private static String withoutComments(String code) {
+        return code.replaceAll("(?s)/\\*.*?\\*/", "").replaceAll("//[^\n]*", "");
+    }
+
+    private static void exceptions(String code) {
+        Matcher matcher = Pattern.compile("throw\\b([^;]*);").matcher(code);
+        int count = 0;
+        while (matcher.find()) {
+            count++;
+            is("a throw of what the document names: " + matcher.group(),
+                    matcher.group(1).matches(" new (IllegalState|IllegalArgument|IndexOutOfBounds)Exception"
+                            + "\\(\"[^\"]*\"\\)"));
+        }
+        is("there are throws", count > 0);
+    }
+
+    private static void lengths(String code) {
+        Pattern head = Pattern.compile("( {4}| {8})(public|private) (?!static final class)[^;={]*\\([^;]*");
+        String[] lines = code.split("\n");
+        String end = "";
+        int begin = 0;
+        int methods = 0;
+        for (int i = 0; i < lines.length; i++) {
+            Matcher matcher = head.matcher(lines[i]);
+            if (end.isEmpty() && matcher.matches()) {
+                begin = i;
+                end = matcher.group(1) + "}";
+            } else if (!end.isEmpty() && lines[i].equals(end)) {
+                is("some sixty lines at the most: " + lines[begin], i - begin < 60);
+                methods++;
+                end = "";
+            }
+        }
+        is("methods were seen", end.isEmpty() && methods > FACE.size());
+    }
+}
