@@ -1,15 +1,5 @@
-import java.util.Arrays;
-import java.util.concurrent.Callable;
-
 /** Tests promise by promise: ordinary inputs, the edges that the document names, and wrong inputs. */
-public final class PromisesTest {
-    private static final String BOUNDS = "java.lang.IndexOutOfBoundsException";
-    private static final String ARGUMENT = "java.lang.IllegalArgumentException";
-    private static final String STATE = "java.lang.IllegalStateException";
-
-    private static int passed = 0;
-    private static int failed = 0;
-
+public final class PromisesTest extends Checks {
     public static void main(String[] args) {
         promise1New();
         promise2Sign();
@@ -45,69 +35,7 @@ public final class PromisesTest {
         promise26ReadAnew();
         promise27Synopsis();
         allAtTheirMost();
-        System.out.println(passed + " passed, " + failed + " failed");
-        if (failed > 0) {
-            System.exit(1);
-        }
-    }
-
-    private static void is(String what, Object got, Object due) {
-        if (due.equals(got)) {
-            passed++;
-        } else {
-            failed++;
-            System.out.println(what + " answered " + got + ", due is " + due);
-        }
-    }
-
-    private static void isThrown(String what, String due, Callable<?> call) {
-        String got;
-        try {
-            got = String.valueOf(call.call());
-        } catch (Exception e) {
-            got = e.getClass().getName();
-        }
-        is(what, got, due);
-    }
-
-    private static void draft(CircleOfLeaves x, String signs) {
-        for (int i = 0; i < signs.length(); i++) {
-            x.sign(signs.charAt(i));
-        }
-    }
-
-    private static int make(CircleOfLeaves x, String headword, int subject, int worth) {
-        draft(x, headword);
-        return x.article(subject, worth);
-    }
-
-    private static int refer(CircleOfLeaves x, int article, String headword) {
-        draft(x, headword);
-        return x.refer(article);
-    }
-
-    /** Gives the article to a contributor of its own and lets that one write it. */
-    private static void write(CircleOfLeaves x, int article, int contributor) {
-        x.give(article, contributor);
-        for (int i = 0; i < 100 && x.about(article, 0) == CircleOfLeaves.GIVEN; i++) {
-            x.pass(1);
-        }
-    }
-
-    private static String places(CircleOfLeaves x, int count) {
-        int[] row = new int[count];
-        for (int i = 0; i < count; i++) {
-            row[i] = x.at(i);
-        }
-        return Arrays.toString(row);
-    }
-
-    private static String columns(CircleOfLeaves x, int count) {
-        int[] row = new int[count];
-        for (int i = 0; i < count; i++) {
-            row[i] = x.about(i, 2);
-        }
-        return Arrays.toString(row);
+        end();
     }
 
     private static void promise1New() {
@@ -695,29 +623,29 @@ public final class PromisesTest {
         make(x, "a b", 0, 1);
         make(x, "ab", 0, 1);
         make(x, "a", 0, 0);
-        is("without a volume", columns(x, 4), "[0, 0, 0, 0]");
+        is("without a volume", about(x, 2, 4), "[0, 0, 0, 0]");
         x.volume('m', 5);
-        is("columns left, by letters", columns(x, 4), "[1, 2, 2, 0]");
+        is("columns left, by letters", about(x, 2, 4), "[1, 2, 2, 0]");
         x.rule(true);
         make(x, " bb", 0, 1);
-        is("columns left, by words", columns(x, 5), "[1, 1, 1, 0, 2]");
+        is("columns left, by words", about(x, 2, 5), "[1, 1, 1, 0, 2]");
         make(x, "c", 0, 9);
-        is("greatest remainders", columns(x, 6), "[0, 0, 0, 0, 1, 4]");
+        is("greatest remainders", about(x, 2, 6), "[0, 0, 0, 0, 1, 4]");
         make(x, "z", 0, 9);
-        is("another volume's do not count", columns(x, 7), "[0, 0, 0, 0, 1, 4, 0]");
+        is("another volume's do not count", about(x, 2, 7), "[0, 0, 0, 0, 1, 4, 0]");
         x.print(0);
         make(x, "a", 0, 9);
-        is("also for those that are printed", columns(x, 8), "[0, 0, 0, 0, 1, 2, 0, 2]");
+        is("also for those that are printed", about(x, 2, 8), "[0, 0, 0, 0, 1, 2, 0, 2]");
 
         CircleOfLeaves y = new CircleOfLeaves();
         y.volume('z', 99);
         make(y, "a", 0, 0);
         is("all are blind", y.about(0, 2), 0);
         make(y, "b", 0, 9);
-        is("all of the budget", columns(y, 2), "[0, 99]");
+        is("all of the budget", about(y, 2, 2), "[0, 99]");
         make(y, "c", 0, 3);
         make(y, "d", 0, 8);
-        is("shares", columns(y, 4), "[0, 44, 15, 40]");
+        is("shares", about(y, 2, 4), "[0, 44, 15, 40]");
     }
 
     private static void promise21Writing() {
