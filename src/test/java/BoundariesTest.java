@@ -145,7 +145,8 @@ public final class BoundariesTest extends Checks {
         refused("IllegalArgumentException if sign is none of these: beside the hyphen", "", "sign ?", ARGUMENT,
                 "#44", "#46");
         refused("IllegalArgumentException if sign is none of these: capitals", "", "sign ?", ARGUMENT, "A", "Z");
-        refused("IllegalArgumentException if sign is none of these: digits, a tab, other dashes and blanks", "draft a-b",
+        refused("IllegalArgumentException if sign is none of these: digits, a tab, other dashes and blanks",
+                "draft a-b",
                 "sign ?", ARGUMENT, "#48", "#57", "#9", "#10", "#95", "#160", "#173", "#8208", "#8211", "#12288");
         refused("IllegalArgumentException if sign is none of these: letters of other scripts", "draft a", "sign ?",
                 ARGUMENT, "#223", "#228", "#353", "#378", "#945", "#65345");
@@ -176,6 +177,10 @@ public final class BoundariesTest extends Checks {
         due("empties the draft, its letters too", "draft ab; erase; draft -", "article 0 0", STATE);
         due("empties the draft, its letters too", "draft zb; erase; draft a; article 0 0; make y 0 0; volume a 5",
                 "about 0 1", 0);
+        due("empties the draft: nothing of it is left", "draft abz; erase; make ab 0 0; make abc 0 0; make ab 0 0",
+                "places 3", "0 2 1");
+        due("empties the draft: nothing of it is left", "make abc 0 0; draft abz; erase; make ab 0 0; draft aba; erase;"
+                + "make ab 0 0; rule true", "places 3", "1 2 0");
         due("an article takes the draft, which is empty then", "make abc 0 0", "erase; article 0 0", "0 " + STATE);
         due("a reference takes the draft, which is empty then", "make a 0 0; link 0 abc", "erase; refer 0",
                 "0 " + STATE);
@@ -280,7 +285,8 @@ public final class BoundariesTest extends Checks {
                 BOUNDS, INT_ENDS);
         refused("no subject above is named ahead of not below", "", "under 0 ?", BOUNDS, "10", "MAX");
         refused("no such subject is named ahead of not below", "", "under ? 5", BOUNDS, "-1", "MIN", "-2");
-        due("no such subject, twice", "", "under 10 10; under -1 -1; under -1 -2", BOUNDS + " " + BOUNDS + " " + BOUNDS);
+        due("no such subject, twice", "", "under 10 10; under -1 -1; under -1 -2",
+                BOUNDS + " " + BOUNDS + " " + BOUNDS);
     }
 
     // ---- Promise 7
@@ -301,7 +307,8 @@ public final class BoundariesTest extends Checks {
     }
 
     private static void referencesRefused() {
-        refused("IndexOutOfBoundsException: no such article", "make a 0 0; draft b", "refer ?", BOUNDS, "-1", "1", "24");
+        refused("IndexOutOfBoundsException: no such article", "make a 0 0; draft b", "refer ?", BOUNDS, "-1", "1",
+                "24");
         refused("IndexOutOfBoundsException: no such article, the ends of int", "make a 0 0; draft b", "refer ?", BOUNDS,
                 INT_ENDS);
         due("IndexOutOfBoundsException: there are no articles", "draft b", "refer 0", BOUNDS);
@@ -311,7 +318,8 @@ public final class BoundariesTest extends Checks {
         due("IllegalStateException if the draft has no letter", "make a 0 0; draft _-_-_-_-", "refer 0", STATE);
         due("no such article is named ahead of no letter", "make a 0 0; draft -", "refer 1; refer -1",
                 BOUNDS + " " + BOUNDS);
-        due("printed, 4, and no letter", "volume z 9; make a 0 0;" + "link 0 b;".repeat(4) + "print 0", "refer 0", STATE);
+        due("printed, 4, and no letter", "volume z 9; make a 0 0;" + "link 0 b;".repeat(4) + "print 0", "refer 0",
+                STATE);
     }
 
     // ---- Promises 8 and 9
@@ -447,6 +455,9 @@ public final class BoundariesTest extends Checks {
         due("worths at the ends", "volume z 99; make a 0 9; make b 0 1", "all 2 2", "89 10");
         due("all of the budget", "volume z 99; make a 0 9; make b 0 0", "all 2 2", "99 0");
         due("of all worths there", "volume a 10; volume y 7; make a 0 5; make b 0 5; make z 0 5", "all 2 3", "10 7 0");
+        due("of what is left there",
+                "volume b 1; volume y 1; make a 0 1; make aa 0 1; make b 0 1; make c 0 1; make d 0 1;"
+                + "make z 0 1", "all 2 6", "1 0 0 1 0 0");
         due("24 articles, 99 columns", "volume z 99;" + ALL_ARTICLES, "all 2 24", "5 5 5" + " 4".repeat(21));
         due("24 articles, 1 column", "volume z 1;" + ALL_ARTICLES, "all 2 24", "1" + " 0".repeat(23));
         due("24 articles, 23 columns", "volume z 23;" + ALL_ARTICLES, "all 2 24", "1 ".repeat(23) + "0");
@@ -503,7 +514,8 @@ public final class BoundariesTest extends Checks {
         due("returns how many that one has to write then", one, "give 0 0; give 1 0", "1 2");
         due("what is written is not to write", one + "give 0 0; pass 1", "give 1 0", 1);
         due("all of 24 to one", "volume z 24; contributor 1;" + ALL_ARTICLES + gifts(0, 23, 0), "give 23 0", 24);
-        due("the last article to the last contributor", "volume z 24;" + SIX_CONTRIBUTORS + ALL_ARTICLES, "give 23 5", 1);
+        due("the last article to the last contributor", "volume z 24;" + SIX_CONTRIBUTORS + ALL_ARTICLES, "give 23 5",
+                1);
         refused("IndexOutOfBoundsException of the article", one, "give ? 0", BOUNDS, "-1", "3", "24");
         refused("IndexOutOfBoundsException of the article, the ends of int", one, "give ? 1", BOUNDS, INT_ENDS);
         refused("IndexOutOfBoundsException of the contributor", one, "give 0 ?", BOUNDS, "-1", "2", "6");
@@ -515,7 +527,8 @@ public final class BoundariesTest extends Checks {
         due("it belongs to no volume", "volume m 9; contributor 9; make n 0 1; make m 0 1", "give 0 0; give 1 0",
                 STATE + " 1");
         due("its volume is printed", one + "print 0", "give 0 0; give 1 1", STATE + " " + STATE);
-        due("only the volume ahead is printed", "volume a 9; volume b 9; contributor 9; make a 0 1; make b 0 1; print 0",
+        due("only the volume ahead is printed",
+                "volume a 9; volume b 9; contributor 9; make a 0 1; make b 0 1; print 0",
                 "give 0 0; give 1 0", STATE + " 1");
         due("it has a contributor", one + "give 0 0", "give 0 0; give 0 1", STATE + " " + STATE);
         due("it has a contributor and is not begun", one + "give 0 0; give 1 0", "give 1 0; give 1 1",
@@ -553,6 +566,8 @@ public final class BoundariesTest extends Checks {
         due("given to nobody", two + "link 0 b; link 1 a", "give 0 0", 1);
         due("the fourth reference", two + "link 0 x; link 0 y; link 0 z; link 0 b; give 1 1", "give 0 0", STATE);
         due("its fourth reference", two + "link 1 x; link 1 y; link 1 z; link 1 a; give 1 1", "give 0 0", STATE);
+        due("four references to others", two + "link 0 x; link 0 y; link 0 z; link 0 bb; link 1 x; link 1 y; link 1 z;"
+                + "link 1 aa; give 1 1", "give 0 0", 1);
         due("the second one with that headword", two + "make -b 0 1; link 0 b; give 2 1", "give 0 0", STATE);
         due("an enemy's printed one", "volume a 9; volume z 9; contributor 9; contributor 9; quarrel 1 0; make a 0 1;"
                 + "make b 0 1; link 1 a; give 0 0; pass 9; print 0", "give 1 1", STATE);
@@ -587,6 +602,9 @@ public final class BoundariesTest extends Checks {
         due("columns when the next is begun", after + "make c 0 8; pass 2", "all 2 3; all 4 2", "1 1 8 2 3");
         due("as they were given", "volume z 2; contributor 1; make a 0 1; make b 0 1; give 1 0; give 0 0; pass 2",
                 "all 4 2", "2 1");
+        due("one given behind it does not change it",
+                "volume z 9; contributor 1; make a 0 1; give 0 0; make b 0 8; pass 1",
+                "about 0 4; give 1 0; all 4 2; pass 7; pass 1; all 4 2", "9 2 9 -1 0 1 9 17");
         due("at first in that in which it was given", "volume z 2; contributor 1; make a 0 1; make b 0 1; pass 7;"
                 + "give 0 0", "all 4 2", "8 -1");
         due("in that in which it was given, after an idle time", "volume z 2; contributor 1; make a 0 1; make b 0 1;"
@@ -601,7 +619,8 @@ public final class BoundariesTest extends Checks {
         String base = "volume z 3; contributor 1; contributor 9; make a 0 1; make b 0 1; make c 0 1;";
         due("nothing is given back", base, "die 0; die 1", "0 0");
         due("returns how many articles are given back", base + "give 0 0; give 1 0; give 2 1", "die 0; die 1", "2 1");
-        due("all that is not written", base + "give 0 0; give 1 0; give 2 0; pass 1", "die 0; all 0 3; all 3 3; all 4 3",
+        due("all that is not written", base + "give 0 0; give 1 0; give 2 0; pass 1",
+                "die 0; all 0 3; all 3 3; all 4 3",
                 "2 2 0 0 0 -1 -1 1 -1 -1");
         due("all that is not written: nothing", base + "give 0 0; pass 1", "die 0; about 0 0; about 0 3", "0 2 0");
         due("24 articles", "volume z 24; contributor 1;" + ALL_ARTICLES + gifts(0, 24, 0), "die 0", 24);
@@ -622,7 +641,8 @@ public final class BoundariesTest extends Checks {
     private static void passing() {
         due("months: 1, 50", "", "pass 1; month; pass 50; month", "0 1 0 51");
         refused("IllegalArgumentException if months is out of range", "pass 3", "pass ?", ARGUMENT, "0", "51", "-1");
-        refused("IllegalArgumentException if months is out of range, the ends of int", "", "pass ?", ARGUMENT, INT_ENDS);
+        refused("IllegalArgumentException if months is out of range, the ends of int", "", "pass ?", ARGUMENT,
+                INT_ENDS);
         due("the month after a refused call", "pass 3", "pass 0; pass 51; month", ARGUMENT + " " + ARGUMENT + " 3");
         String fifty = "volume z 50; contributor 1; make a 0 1; give 0 0;";
         due("ended in the fiftieth month", fifty, "pass 50", 1);
@@ -651,14 +671,17 @@ public final class BoundariesTest extends Checks {
                 STATE + " " + STATE + " " + STATE + " 0 " + STATE + " " + STATE + " 0 " + STATE + " 0 0");
         refused("IndexOutOfBoundsException", two, "print ?", BOUNDS, "-1", "2", "4");
         refused("IndexOutOfBoundsException, the ends of int", two, "print ?", BOUNDS, INT_ENDS);
-        due("IndexOutOfBoundsException: there are 4", "volume a 1; volume b 1; volume c 1; volume d 1", "print 4", BOUNDS);
+        due("IndexOutOfBoundsException: there are 4", "volume a 1; volume b 1; volume c 1; volume d 1", "print 4",
+                BOUNDS);
         due("all its articles that are blind", two + "make a 0 0; make b 0 0; make c 0 0; make n 0 0",
                 "print 0; all 0 4; print 1; all 0 4", "2 3 3 0 0 1 3 3 3 0");
         due("or have a text", two + "make a 0 1; make b 0 1; make bb 0 1; make ba 0 1; give 0 0; give 1 0; pass 1",
                 "print 0; all 0 4", "1 3 1 0 0");
-        due("those that are forbidden with them", two + "make a 0 0; make b 0 1; forbid 0 true; forbid 1 true; give 1 0;"
+        due("those that are forbidden with them",
+                two + "make a 0 0; make b 0 1; forbid 0 true; forbid 1 true; give 1 0;"
                 + "pass 1", "print 0; all 0 2", "2 3 3");
-        due("what was left out of the one ahead is not in it", two + "make a 0 1; print 0; make aa 0 0", "print 1; all 0 2",
+        due("what was left out of the one ahead is not in it", two + "make a 0 1; print 0; make aa 0 0",
+                "print 1; all 0 2",
                 "0 0 0");
         due("24 articles", "volume z 9;" + "make a 0 0;".repeat(24), "print 0", 24);
     }
@@ -670,6 +693,12 @@ public final class BoundariesTest extends Checks {
         due("to one in this volume, behind", two + "make b 0 0; link 0 b; print 0", "struck", 0);
         due("to one in this volume, ahead", two + "make b 0 0; link 1 a; print 0", "struck", 0);
         due("to one that is left out of this volume", two + "make b 0 1; link 0 b; print 0", "struck", 1);
+        due("of one that is left out: none is looked at", two + "make b 0 1; link 1 bb; link 1 c; print 0; print 1",
+                "struck; open true; open false; supplement; open true", "0 0 0 0 0");
+        due("of one of the next volume: none is looked at", two + "make c 0 0; link 1 b; link 1 d; print 0",
+                "struck; print 1; struck", "0 1 2");
+        due("of one that was left out: when it is printed", two + "make b 0 1; give 1 0; link 1 bb; link 1 c; print 0;"
+                + "pass 1; make bb 0 0", "supplement; struck; print 1; open true", "200 0 0 1");
         due("to one in this volume that is not there", two + "link 0 b; print 0", "struck", 1);
         due("to one in the volume ahead", two + "make c 0 0; link 1 a; print 0; print 1", "struck", 0);
         due("to one that is left out of the volume ahead", two + "make aa 0 1; make c 0 0; link 2 aa; print 0; print 1",
@@ -678,12 +707,14 @@ public final class BoundariesTest extends Checks {
         due("a promise of the next volume", two + "link 0 c; print 0", "struck; open true", "0 0");
         due("a promise of the last letter of the next volume", two + "link 0 m; print 0", "struck; open true", "0 0");
         due("a promise of none", two + "link 0 n; print 0; print 1", "struck; open true; supplement", "0 0 0");
-        due("would belong: the volume's last letter", "volume m 9; make a 0 0; link 0 m; link 0 n; print 0", "struck", 1);
+        due("would belong: the volume's last letter", "volume m 9; make a 0 0; link 0 m; link 0 n; print 0", "struck",
+                1);
         due("four are struck", two + "link 0 b; link 0 b; link 0 aa; link 0 -b; print 0", "struck", 4);
         due("what is struck stays so", two + "make b 0 1; link 0 b; give 1 0; print 0; pass 1; supplement",
                 "about 1 0; struck; open true", "3 1 0");
         due("alike by letters", two + "make a-b 0 0; link 0 ab; print 0", "struck", 0);
-        due("alike by words", two + "make a-b 0 0; link 0 a_b; link 0 ab; link 0 a__b; rule true; print 0", "struck", 2);
+        due("alike by words", two + "make a-b 0 0; link 0 a_b; link 0 ab; link 0 a__b; rule true; print 0", "struck",
+                2);
         due("96 are struck", "volume b 9;" + allLinked("a", "b") + "print 0", "struck", 96);
     }
 
@@ -715,7 +746,8 @@ public final class BoundariesTest extends Checks {
         due("24 articles", "volume z 9; print 0;" + "make a 0 0;".repeat(24), "supplement", 2400);
         due("forbidden ones with them", two + "print 0; make a 0 0; forbid 0 true", "supplement; forbid 0 false",
                 "100 " + STATE);
-        due("their references stand likewise, to one that is printed", two + "make a 0 0; print 0; make b 0 0; link 1 a",
+        due("their references stand likewise, to one that is printed",
+                two + "make a 0 0; print 0; make b 0 0; link 1 a",
                 "supplement; struck", "100 0");
         due("to one in the same supplement, behind", two + "print 0; make a 0 0; link 0 b; make b 0 0",
                 "supplement; struck", "200 0");
@@ -725,7 +757,8 @@ public final class BoundariesTest extends Checks {
                 "100 2");
         due("are promises likewise", two + "print 0; make a 0 0; link 0 c; link 0 n",
                 "supplement; struck; print 1; open true; supplement", "100 0 0 1 1");
-        due("columns for the share of those that come late", "volume z 9; contributor 9; make a 0 1; print 0; make b 0 8",
+        due("columns for the share of those that come late",
+                "volume z 9; contributor 9; make a 0 1; print 0; make b 0 8",
                 "all 2 2; give 0 0; give 1 0", "1 8 " + STATE + " " + STATE);
     }
 
@@ -743,12 +776,14 @@ public final class BoundariesTest extends Checks {
         due("facts that it does not use", one + "change 1 1; change 6 1", "supplement; errata 0", "0 0");
         due("the values of the printing, not of the use", "volume z 9; contributor 9; make a 0 1; use 0 0; give 0 0;"
                 + "pass 1; change 0 5; print 0", "supplement; errata 0", "0 0");
-        due("printed in the same supplement", "volume z 9; contributor 9; make a 0 1; use 0 0; give 0 0; print 0; pass 1;"
+        due("printed in the same supplement",
+                "volume z 9; contributor 9; make a 0 1; use 0 0; give 0 0; print 0; pass 1;"
                 + "change 0 5", "supplement; supplement; change 0 0; supplement", "100 0 5 1");
         due("one that is not printed", one + "make b 0 1; use 1 0; change 0 1", "supplement", 1);
         due("of a forbidden one", "volume z 9; contributor 9; make a 0 1; use 0 0; forbid 0 true; give 0 0; pass 1;"
                 + "print 0; change 0 1", "supplement; errata 0", "1 1");
-        due("all facts of one article", "volume z 9; contributor 9; make a 0 1;" + uses(1) + "give 0 0; pass 1; print 0;"
+        due("all facts of one article",
+                "volume z 9; contributor 9; make a 0 1;" + uses(1) + "give 0 0; pass 1; print 0;"
                 + changes(), "supplement; errata 0; supplement", "8 8 0");
         due("all facts of all articles", "volume z 24; contributor 9;" + ALL_ARTICLES + uses(24) + gifts(0, 24, 0)
                 + "pass 24; print 0;" + changes(), "supplement; errata 0; supplement", "192 192 0");
@@ -779,17 +814,21 @@ public final class BoundariesTest extends Checks {
         due("of a volume that is printed now", two + "link 0 c; print 0; print 1", "open true; supplement; open true",
                 "1 1 0");
         due("its last letter", two + "link 0 m; link 0 n; print 0; print 1", "supplement", 1);
-        due("planned later", two + "link 0 n; print 0; print 1; volume n 1", "supplement; print 2; supplement", "0 0 1");
+        due("planned later", two + "link 0 n; print 0; print 1; volume n 1", "supplement; print 2; supplement",
+                "0 0 1");
         due("each once", two + "link 0 c; print 0; print 1; supplement", "supplement; supplement", "0 0");
-        due("each reference", two + "link 0 c; link 0 c; link 0 -c; link 0 d; print 0; print 1", "supplement; supplement",
+        due("each reference", two + "link 0 c; link 0 c; link 0 -c; link 0 d; print 0; print 1",
+                "supplement; supplement",
                 "4 0");
         due("an article is printed", two + "link 0 c; print 0; make c 0 0; print 1", "supplement; open true", "0 0");
         due("an article is printed in the same supplement", two + "link 0 c; print 0; print 1; make c 0 0",
                 "open true; supplement; open true", "1 100 0");
         due("an article is left out", two + "link 0 c; print 0; make c 0 1; print 1", "supplement; open true", "1 0");
-        due("an article is left out, and comes when it is told", two + "link 0 c; print 0; make c 0 1; give 1 0; print 1;"
+        due("an article is left out, and comes when it is told",
+                two + "link 0 c; print 0; make c 0 1; give 1 0; print 1;"
                 + "supplement; pass 1", "supplement; supplement; open true", "100 0 0");
-        due("which nobody owns", "volume b 9; volume m 9; contributor 9; make a 0 1; link 0 c; give 0 0; pass 1; print 0;"
+        due("which nobody owns",
+                "volume b 9; volume m 9; contributor 9; make a 0 1; link 0 c; give 0 0; pass 1; print 0;"
                 + "print 1", "supplement; errata 0", "1 0");
         due("of a forbidden one", two + "link 0 c; forbid 0 true; print 0; print 1",
                 "open false; open true; supplement; open true", "0 1 1 0");
@@ -804,7 +843,8 @@ public final class BoundariesTest extends Checks {
     private static void forbiddenInPrint() {
         String two = "volume b 9; volume m 9; contributor 9; make a 0 0; make b 0 0;";
         due("its references are looked at likewise", two + "link 0 aa; forbid 0 true; print 0", "struck", 1);
-        due("references to its headword stand", two + "link 0 b; forbid 1 true; print 0", "struck; readAnew false", "0 0");
+        due("references to its headword stand", two + "link 0 b; forbid 1 true; print 0", "struck; readAnew false",
+                "0 0");
         due("its headword keeps promises", two + "make c 0 0; link 0 c; forbid 2 true; print 0; print 1",
                 "open false; open true; supplement", "0 0 0");
         due("without its own references", two + "link 0 c; link 1 c; forbid 1 true; print 0; print 1",
@@ -890,6 +930,9 @@ public final class BoundariesTest extends Checks {
                 + "use 0 0; use 1 0; use 0 7; use 1 7; use 0 3; use 1 4;";
         due("nothing is printed", two, "contradictions true; contradictions false", "0 0");
         due("one article", two + "print 0; change 0 1; change 7 1", "contradictions true", 0);
+        due("one that is not printed", two + "change 0 1; change 7 1; print 0",
+                "contradictions true; contradictions false",
+                "0 0");
         due("alike values", two + "print 0; print 1", "contradictions true", 0);
         due("unlike values in two articles, the facts at the ends", two + "print 0; change 0 1; change 7 1; print 1",
                 "contradictions true; contradictions false; readAnew true", "2 2 2");
@@ -898,7 +941,8 @@ public final class BoundariesTest extends Checks {
         due("unlike values that differ by all of int", two + "change 0 0; print 0; change 0 MIN; print 1",
                 "contradictions true", 1);
         due("used by one article alone", two + "print 0; change 3 1; change 4 1; print 1", "contradictions true", 0);
-        due("as told last", two + "print 0; change 0 1; print 1; supplement", "contradictions true; readAnew true", "0 0");
+        due("as told last", two + "print 0; change 0 1; print 1; supplement", "contradictions true; readAnew true",
+                "0 0");
         due("a change that is not told", two + "print 0; print 1; change 0 9", "contradictions true", 0);
         due("all facts", "volume b 9; volume m 9; contributor 9; make a 0 1; make c 0 1; give 0 0; give 1 0; pass 9;"
                 + uses(2) + "print 0;" + changes() + "print 1", "contradictions true; readAnew false; supplement;"
@@ -907,7 +951,8 @@ public final class BoundariesTest extends Checks {
                 + "make c 0 1; make n 0 1;" + gifts(0, 3, 0) + "use 0 0; use 1 1; use 2 0; pass 9; print 0; print 1;"
                 + "change 0 1; print 2", "contradictions true; contradictions false", "1 1");
         due("each fact once", "volume b 9; volume m 9; volume z 9; contributor 9; make a 0 1; make c 0 1; make n 0 1;"
-                + gifts(0, 3, 0) + "use 0 0; use 1 0; use 2 0; pass 9; print 0; change 0 1; print 1; change 0 2; print 2",
+                + gifts(0, 3, 0) + "use 0 0; use 1 0; use 2 0; pass 9; print 0; change 0 1; print 1;"
+                + "change 0 2; print 2",
                 "contradictions true", 1);
         due("the one 100 times, and the other", two + "link 0 d; link 0 m; print 0; change 0 1; print 1",
                 "open true; contradictions true; readAnew true; readAnew false", "2 1 201 201");
@@ -918,10 +963,12 @@ public final class BoundariesTest extends Checks {
         refused("IndexOutOfBoundsException, the ends of int", "", "synopsis ?", BOUNDS, INT_ENDS);
         String nine = "volume z 9; make a 9 0; make b 0 0; make c 9 1; make d 8 0; forbid 0 true;";
         due("printed articles", nine, "synopsis 0; synopsis 9", "0 0");
-        due("of a subject, forbidden ones with them", nine + "print 0", "synopsis 0; synopsis 8; synopsis 9; synopsis 1",
+        due("of a subject, forbidden ones with them", nine + "print 0",
+                "synopsis 0; synopsis 8; synopsis 9; synopsis 1",
                 "1 1 1 0");
         due("or one that is under it", nine + "print 0; under 9 0", "synopsis 0; synopsis 8; synopsis 9", "2 1 1");
-        String chain = "under 1 0; under 2 1; under 3 2; under 4 3; under 5 4; under 6 5; under 7 6; under 8 7; under 9 8;";
+        String chain = "under 1 0; under 2 1; under 3 2; under 4 3;"
+                + "under 5 4; under 6 5; under 7 6; under 8 7; under 9 8;";
         due("by however many steps: nine", nine + "print 0;" + chain, "synopsis 0; synopsis 1; synopsis 8; synopsis 9",
                 "3 2 2 1");
         due("a chain that is cut", nine + "print 0;" + chain + "under 1 NONE", "synopsis 0; synopsis 1", "1 2");
@@ -937,7 +984,8 @@ public final class BoundariesTest extends Checks {
         answered("512 calls: 25,550 months", "", "pass 50;".repeat(511) + "month", "0 ".repeat(511) + "25550");
         answered("512 calls: a fact", "", "change 7 1; change 7 0;".repeat(256), "0 1 ".repeat(256).trim());
         answered("512 calls: supplements", "volume a 1; print 0;", "supplement;".repeat(510), "0 ".repeat(510).trim());
-        answered("written in month 25,001", "volume z 1; contributor 1; make a 0 1;" + "pass 50;".repeat(500) + "give 0 0",
+        answered("written in month 25,001",
+                "volume z 1; contributor 1; make a 0 1;" + "pass 50;".repeat(500) + "give 0 0",
                 "about 0 4; pass 1; about 0 0; about 0 4", "25001 1 2 25001");
         String two = "volume b 9; volume m 9; make a 0 0; link 0 c; link 0 m; print 0; print 1;";
         answered("512 calls: sets read again and again", two, "readAnew true; readAnew false;".repeat(251),

@@ -8,7 +8,9 @@ import java.nio.file.Files;
 import java.nio.file.Path;
 import java.util.ArrayList;
 import java.util.List;
+import java.util.Map;
 import java.util.Set;
+import java.util.TreeMap;
 import java.util.TreeSet;
 import java.util.regex.Matcher;
 import java.util.regex.Pattern;
@@ -53,7 +55,10 @@ public final class FaceTest {
     private static final String[] RULED_OUT = {"\\btry\\b", "\\bcatch\\b", "\\bfinally\\b", "\\bsynchronized\\b",
         "\\bassert\\b", "->", "::", "\\bimport\\b", "\\bpackage\\b", "static\\s*\\{", "\\bequals\\s*\\(",
         "\\bhashCode\\b", "\\btoString\\b", "\\bdouble\\b", "\\bfloat\\b", "Exact\\s*\\(", "\\binstanceof\\b",
-        "\\bprotected\\b", "\\bvar\\b", "\\bwhile\\b", "[^\\x00-\\x7f]"};
+        "\\bprotected\\b", "\\bvar\\b", "\\bwhile\\b", "\\bdo\\b", "[^\\x00-\\x7f]", "\" \\+|\\+ \"", "for \\(;",
+        "\\bjava\\.", "\\bSystem\\.(?!arraycopy)", "\\bMath\\.(?!max\\()", "@"};
+
+    private static final int MOST_DEPTH = 8;
 
     private static int passed = 0;
     private static int failed = 0;
@@ -70,7 +75,10 @@ public final class FaceTest {
             is("not in the program: " + pattern, !matcher.find());
         }
         exceptions(code);
-        lengths(code);
+        objects(code);
+        Map<String, String> bodies = bodies(code);
+        lengths(bodies);
+        depths(bodies);
         System.out.println(passed + " passed, " + failed + " failed");
         if (failed > 0) {
             System.exit(1);
@@ -156,6 +164,27 @@ public final class FaceTest {
             is("private and static: " + one, Modifier.isPrivate(one.getModifiers())
                     && Modifier.isStatic(one.getModifiers()));
             is("some twenty fields at the most: " + one, one.getDeclaredFields().length <= 20);
+            if (!one.isEnum()) {
+                membersInside(one);
+            }
+        }
+    }
+
+    private static void membersInside(Class<?> one) {
+        Set<String> face = new TreeSet<>();
+        for (Method method : CircleOfLeaves.class.getDeclaredMethods()) {
+            if (Modifier.isPublic(method.getModifiers())) {
+                face.add(method.getName());
+            }
+        }
+        for (Field field : one.getDeclaredFields()) {
+            isPrivate(field);
+            is("no static field: " + field, !Modifier.isStatic(field.getModifiers()));
+        }
+        for (Method method : one.getDeclaredMethods()) {
+            isPrivate(method);
+            is("no name of the face: " + method, !face.contains(method.getName()));
+            is("seven parameters at the most: " + method, method.getParameterCount() <= 7);
         }
     }
 
@@ -175,23 +204,65 @@ public final class FaceTest {
         is("there are throws", count > 0);
     }
 
-    private static void lengths(String code) {
-        Pattern head = Pattern.compile("( {4}| {8})(public|private) (?!static final class)[^;={]*\\([^;]*");
-        String[] lines = code.split("\n");
+    /** Objects are made in constructors and fields alone; a call makes none but what it throws. */
+    private static void objects(String code) {
+        Matcher matcher = Pattern.compile("\\n( *)([^\\n]*?)\\bnew (\\w+)").matcher(code);
+        int count = 0;
+        while (matcher.find()) {
+            count++;
+            String ahead = matcher.group(2);
+            boolean isField = ahead.startsWith("private ");
+            boolean isRow = ahead.matches("\\w+\\[i\\] = ");
+            is("no object made by a call: " + matcher.group().trim(), isField || isRow || ahead.equals("throw "));
+        }
+        is("objects were seen", count > 0);
+    }
+
+    /** The lines of each method between its braces, by its name. */
+    private static Map<String, String> bodies(String code) {
+        Pattern head = Pattern.compile("( {4}| {8})(?:public|private) (?!static final class|enum)"
+                + "[^;={]*?(\\w+)\\([^;]*");
+        Map<String, String> bodies = new TreeMap<>();
         String end = "";
-        int begin = 0;
-        int methods = 0;
-        for (int i = 0; i < lines.length; i++) {
-            Matcher matcher = head.matcher(lines[i]);
+        String name = "";
+        StringBuilder body = new StringBuilder();
+        for (String line : code.split("\n")) {
+            Matcher matcher = head.matcher(line);
             if (end.isEmpty() && matcher.matches()) {
-                begin = i;
                 end = matcher.group(1) + "}";
-            } else if (!end.isEmpty() && lines[i].equals(end)) {
-                is("some sixty lines at the most: " + lines[begin], i - begin < 60);
-                methods++;
+                name = matcher.group(2);
+                body.setLength(0);
+            } else if (!end.isEmpty() && line.equals(end)) {
+                is("one method of the name " + name, bodies.put(name, body.toString()) == null);
                 end = "";
+            } else if (!end.isEmpty()) {
+                body.append(line).append('\n');
             }
         }
-        is("methods were seen", end.isEmpty() && methods > FACE.size());
+        is("methods were seen", end.isEmpty() && bodies.size() > FACE.size());
+        return bodies;
+    }
+
+    private static void lengths(Map<String, String> bodies) {
+        for (Map.Entry<String, String> one : bodies.entrySet()) {
+            is("some sixty lines at the most: " + one.getKey(), one.getValue().split("\n").length < 60);
+        }
+    }
+
+    private static void depths(Map<String, String> bodies) {
+        for (String name : bodies.keySet()) {
+            is("eight calls deep at the most: " + name, depth(name, bodies, 0) <= MOST_DEPTH);
+        }
+    }
+
+    private static int depth(String name, Map<String, String> bodies, int open) {
+        int deepest = 0;
+        for (String other : bodies.keySet()) {
+            boolean isCalled = Pattern.compile("\\b" + other + "\\(").matcher(bodies.get(name)).find();
+            if (isCalled && open <= MOST_DEPTH) {
+                deepest = Math.max(deepest, depth(other, bodies, open + 1));
+            }
+        }
+        return deepest + 1;
     }
 }
