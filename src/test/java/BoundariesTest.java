@@ -197,6 +197,10 @@ public final class BoundariesTest extends Checks {
                 "rule true; rule false", STATE + " " + STATE);
         due("what was ruled stays", "make a_z 0 0; make ab 0 0; volume z 1; rule true; print 0", "rule false; places 2",
                 STATE + " 0 1");
+        due("the draft stays", "draft a-b", "rule true; rule false; erase", "0 1 3");
+        due("columns as they are when it is begun, by the rule of then", "volume z 3; contributor 1; make aa 0 1;"
+                + "make a_b 0 1; give 0 0; give 1 0", "all 2 2; rule true; all 2 2; all 4 2; pass 9; all 4 2",
+                "2 1 0 1 2 2 -1 2 2 4");
     }
 
     // ---- Terms: the order
@@ -454,6 +458,10 @@ public final class BoundariesTest extends Checks {
         due("nor where all are blind", "volume z 99; make a 0 0; make b 0 0", "all 2 2", "0 0");
         due("worths at the ends", "volume z 99; make a 0 9; make b 0 1", "all 2 2", "89 10");
         due("all of the budget", "volume z 99; make a 0 9; make b 0 0", "all 2 2", "99 0");
+        due("of all worths there, forbidden ones with them", "volume z 10; make a 0 1; make b 0 1; forbid 0 true",
+                "all 2 2", "5 5");
+        due("of all worths there, those that were left out with them", "volume z 10; make a 0 1; make b 0 1; print 0",
+                "all 2 2", "5 5");
         due("of all worths there", "volume a 10; volume y 7; make a 0 5; make b 0 5; make z 0 5", "all 2 3", "10 7 0");
         due("of what is left there",
                 "volume b 1; volume y 1; make a 0 1; make aa 0 1; make b 0 1; make c 0 1; make d 0 1;"
@@ -476,6 +484,8 @@ public final class BoundariesTest extends Checks {
                 STATE + " " + STATE);
         due("IllegalStateException if there are 6, dead ones with them", SIX_CONTRIBUTORS + "die 0; die 5",
                 "contributor 1", STATE);
+        due("made when all is printed", "volume a 1; print 0; contributor 1", "contributor 9; give 0 0",
+                "1 " + BOUNDS);
         refused("IllegalArgumentException if pace is out of range", "contributor 1", "contributor ?", ARGUMENT, "0",
                 "10", "-1");
         refused("IllegalArgumentException if pace is out of range, the ends of int", "", "contributor ?", ARGUMENT,
@@ -613,6 +623,12 @@ public final class BoundariesTest extends Checks {
                 + "give 0 0; give 1 0; pass 7", "all 4 2", "1 2");
         due("each writes alone", "volume z 2; contributor 1; contributor 1; make a 0 1; make b 0 1; give 0 0; give 1 1",
                 "all 4 2; pass 1", "1 1 2");
+        due("left out, they go on being written, one after the other", "volume z 9; contributor 3; make a 0 1;"
+                + "make b 0 1; make c 0 1; give 0 0; give 1 0; give 2 0; print 0",
+                "all 4 3; pass 1; all 4 3; pass 1; pass 1; all 0 3; supplement",
+                "1 -1 -1 1 1 2 -1 1 1 2 2 2 300");
+        due("given as it is, forbidden, with its references and facts", "volume z 9; contributor 9; make a 0 1;"
+                + "forbid 0 true; link 0 b; use 0 3; give 0 0", "forbid 0 true; link 0 b; use 0 3", "1 2 0");
     }
 
     private static void dying() {
@@ -628,6 +644,13 @@ public final class BoundariesTest extends Checks {
         due("one can be given back that is begun, and begun anew", "volume z 9; contributor 1; contributor 9;"
                 + "make a 0 1; give 0 0; pass 5; die 0", "about 0 4; give 0 1; about 0 4; pass 1", "-1 1 6 1");
         due("nothing is written by the dead", base + "give 0 0; die 0", "pass 50; about 0 0", "0 0");
+        due("given back as it is, forbidden, with its references and facts",
+                base + "forbid 0 true; link 0 b; use 0 3; give 0 0; die 0", "forbid 0 true; link 0 b; use 0 3",
+                "1 2 0");
+        due("what the dead have written is printed", base + "give 0 0; give 1 0; pass 1; die 0", "print 0; all 0 3",
+                "1 3 0 0");
+        due("what the dead have written comes with the supplement", base + "give 0 0; print 0; pass 1; die 0",
+                "supplement", 100);
         due("given back out of a printed volume", base + "give 0 0; print 0; die 0", "about 0 0; give 0 1",
                 "0 " + STATE);
         due("IllegalStateException if that one is dead", base + "give 0 0; die 0", "die 0", STATE);
@@ -715,6 +738,14 @@ public final class BoundariesTest extends Checks {
         due("alike by letters", two + "make a-b 0 0; link 0 ab; print 0", "struck", 0);
         due("alike by words", two + "make a-b 0 0; link 0 a_b; link 0 ab; link 0 a__b; rule true; print 0", "struck",
                 2);
+        due("the headword of two articles, of which the second is printed",
+                two + "make b 0 1; make b 0 0; link 0 b; print 0",
+                "struck", 0);
+        due("the headword of two articles, of which the first is printed",
+                two + "make b 0 0; make b 0 1; link 0 b; print 0", "struck", 0);
+        due("the headword of two articles, of which none is printed", two + "make b 0 1; make b 0 1; link 0 b; print 0",
+                "struck", 1);
+        due("by the rule of the printing", "volume b 9; make ab 0 0; link 0 a-b; rule true", "print 0; struck", "1 1");
         due("96 are struck", "volume b 9;" + allLinked("a", "b") + "print 0", "struck", 96);
     }
 
@@ -773,6 +804,12 @@ public final class BoundariesTest extends Checks {
         due("than was told last, as it was printed", one + "change 7 1; supplement; change 7 3", "supplement; errata 0",
                 "1 2");
         due("changed and changed back", one + "change 7 1; change 7 3", "supplement; errata 0", "0 0");
+        due("the values of the printing, of an article that is made after the change", "volume z 9; contributor 9;"
+                + "change 0 5; make a 0 1; use 0 0; give 0 0; pass 1; print 0", "supplement; errata 0", "0 0");
+        due("one fact of two articles, each for itself",
+                "volume b 9; volume z 9; contributor 9; make a 0 1; make c 0 1; use 0 0; use 1 0; give 0 0; give 1 0;"
+                + "pass 2; print 0; change 0 5; print 1",
+                "supplement; errata 0", "1 1");
         due("facts that it does not use", one + "change 1 1; change 6 1", "supplement; errata 0", "0 0");
         due("the values of the printing, not of the use", "volume z 9; contributor 9; make a 0 1; use 0 0; give 0 0;"
                 + "pass 1; change 0 5; print 0", "supplement; errata 0", "0 0");
@@ -824,6 +861,14 @@ public final class BoundariesTest extends Checks {
         due("an article is printed in the same supplement", two + "link 0 c; print 0; print 1; make c 0 0",
                 "open true; supplement; open true", "1 100 0");
         due("an article is left out", two + "link 0 c; print 0; make c 0 1; print 1", "supplement; open true", "1 0");
+        due("two articles, of which one is printed", two + "link 0 c; print 0; make c 0 1; make c 0 0; print 1",
+                "open true; supplement", "0 0");
+        due("alike by letters", two + "link 0 c_d; link 0 cd; make cd 0 0; print 0; print 1", "open true; supplement",
+                "0 0");
+        due("alike by words", two + "link 0 c_d; link 0 cd; make cd 0 0; rule true; print 0; print 1",
+                "open true; supplement", "1 1");
+        due("alike by words, a hyphen", two + "link 0 c_d; link 0 cd; make c-d 0 0; rule true; print 0; print 1",
+                "open true; supplement", "1 1");
         due("an article is left out, and comes when it is told",
                 two + "link 0 c; print 0; make c 0 1; give 1 0; print 1;"
                 + "supplement; pass 1", "supplement; supplement; open true", "100 0 0");
@@ -904,6 +949,8 @@ public final class BoundariesTest extends Checks {
         due("owned by the article's contributor", "volume z 9;" + SIX_CONTRIBUTORS + "make a 0 1; make b 0 1; use 0 0;"
                 + "use 1 0; use 1 1; give 0 0; give 1 5; pass 1; print 0; change 0 1; change 1 1; supplement",
                 "errata 0; errata 1; errata 5", "1 0 2");
+        due("owned by one who dies later", "volume z 9; contributor 9; make a 0 1; use 0 0; give 0 0; pass 1; print 0;"
+                + "change 0 1; supplement; die 0", "errata 0", 1);
         due("owned by a dead one", "volume z 9; contributor 9; make a 0 1; use 0 0; give 0 0; pass 1; print 0; die 0;"
                 + "change 0 1; supplement", "errata 0", 1);
         due("not by one who gave it back", "volume z 9; contributor 9; contributor 9; make a 0 1; use 0 0; give 0 0;"
@@ -950,6 +997,12 @@ public final class BoundariesTest extends Checks {
         due("between the first and the third of three", "volume b 9; volume m 9; volume z 9; contributor 9; make a 0 1;"
                 + "make c 0 1; make n 0 1;" + gifts(0, 3, 0) + "use 0 0; use 1 1; use 2 0; pass 9; print 0; print 1;"
                 + "change 0 1; print 2", "contradictions true; contradictions false", "1 1");
+        due("between the third and two that are alike", "volume b 9; volume m 9; volume z 9; contributor 9;"
+                + "make a 0 1; make c 0 1; make n 0 1;" + gifts(0, 3, 0) + "use 0 0; use 1 0; use 2 0; pass 9; print 0;"
+                + "print 1; change 0 1; print 2", "contradictions true; contradictions false", "1 1");
+        due("between the second and the third", "volume b 9; volume m 9; volume z 9; contributor 9;"
+                + "make a 0 1; make c 0 1; make n 0 1;" + gifts(0, 3, 0) + "use 0 1; use 1 0; use 2 0; pass 9; print 0;"
+                + "print 1; change 0 1; print 2", "contradictions true; contradictions false", "1 1");
         due("each fact once", "volume b 9; volume m 9; volume z 9; contributor 9; make a 0 1; make c 0 1; make n 0 1;"
                 + gifts(0, 3, 0) + "use 0 0; use 1 0; use 2 0; pass 9; print 0; change 0 1; print 1;"
                 + "change 0 2; print 2",

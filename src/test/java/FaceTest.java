@@ -1,3 +1,4 @@
+import java.lang.reflect.Array;
 import java.lang.reflect.Constructor;
 import java.lang.reflect.Field;
 import java.lang.reflect.Member;
@@ -7,6 +8,8 @@ import java.nio.charset.StandardCharsets;
 import java.nio.file.Files;
 import java.nio.file.Path;
 import java.util.ArrayList;
+import java.util.Collections;
+import java.util.IdentityHashMap;
 import java.util.List;
 import java.util.Map;
 import java.util.Set;
@@ -58,7 +61,14 @@ public final class FaceTest {
         "\\bprotected\\b", "\\bvar\\b", "\\bwhile\\b", "\\bdo\\b", "[^\\x00-\\x7f]", "\" \\+|\\+ \"", "for \\(;",
         "\\bjava\\.", "\\bSystem\\.(?!arraycopy)", "\\bMath\\.(?!max\\()", "@"};
 
+    /** All names with a capital and a small letter that the program may hold beside those of its own classes. */
+    private static final Set<String> LIBRARY = Set.of("CircleOfLeaves", "System", "Math",
+            "IndexOutOfBoundsException", "IllegalArgumentException", "IllegalStateException");
+
     private static final int MOST_DEPTH = 8;
+    private static final int MOST_FIELDS = 20;
+    private static final int MOST_OBJECTS = 1000;
+    private static final int MOST_ELEMENTS = 10000;
 
     private static int passed = 0;
     private static int failed = 0;
@@ -74,11 +84,16 @@ public final class FaceTest {
             Matcher matcher = Pattern.compile(pattern).matcher(code);
             is("not in the program: " + pattern, !matcher.find());
         }
+        library(code);
+        loops(code);
         exceptions(code);
         objects(code);
         Map<String, String> bodies = bodies(code);
         lengths(bodies);
         depths(bodies);
+        constructorsThrowNothing(code);
+        fields();
+        room();
         System.out.println(passed + " passed, " + failed + " failed");
         if (failed > 0) {
             System.exit(1);
@@ -123,6 +138,7 @@ public final class FaceTest {
             if (!Modifier.isPublic(method.getModifiers())) {
                 isPrivate(method);
                 is("no name of the face: " + method.getName(), !openNames.contains(method.getName()));
+                is("seven parameters at the most: " + method, method.getParameterCount() <= 7);
             }
         }
         is("public and final", Modifier.isPublic(CircleOfLeaves.class.getModifiers())
@@ -163,7 +179,6 @@ public final class FaceTest {
         for (Class<?> one : inside) {
             is("private and static: " + one, Modifier.isPrivate(one.getModifiers())
                     && Modifier.isStatic(one.getModifiers()));
-            is("some twenty fields at the most: " + one, one.getDeclaredFields().length <= 20);
             if (!one.isEnum()) {
                 membersInside(one);
             }
@@ -188,8 +203,96 @@ public final class FaceTest {
         }
     }
 
+    private static void fields() {
+        List<Class<?>> all = new ArrayList<>(List.of(CircleOfLeaves.class.getDeclaredClasses()));
+        all.add(CircleOfLeaves.class);
+        for (Class<?> one : all) {
+            int count = 0;
+            for (Field field : one.getDeclaredFields()) {
+                count += Modifier.isStatic(field.getModifiers()) ? 0 : 1;
+            }
+            is("some twenty fields at the most: " + one, count <= MOST_FIELDS);
+        }
+    }
+
+    /** Calls make no objects, so what a new one holds is all that it ever needs of the room. */
+    private static void room() throws IllegalAccessException {
+        Set<Object> seen = Collections.newSetFromMap(new IdentityHashMap<>());
+        List<Object> found = new ArrayList<>(List.of(new CircleOfLeaves()));
+        int elements = 0;
+        for (int i = 0; i < found.size(); i++) {
+            Object one = found.get(i);
+            if (one != null && seen.add(one)) {
+                List<Object> held = held(one);
+                elements += held.size();
+                found.addAll(held);
+            }
+        }
+        is("objects: " + seen.size(), seen.size() > 1 && seen.size() <= MOST_OBJECTS);
+        is("fields and elements: " + elements, elements <= MOST_ELEMENTS);
+    }
+
+    /** What an object or array holds; a number, which holds nothing itself, as null. */
+    private static List<Object> held(Object one) throws IllegalAccessException {
+        List<Object> held = new ArrayList<>();
+        if (one.getClass().isArray()) {
+            boolean isOfNumbers = one.getClass().getComponentType().isPrimitive();
+            for (int i = 0; i < Array.getLength(one); i++) {
+                held.add(isOfNumbers ? null : Array.get(one, i));
+            }
+            return held;
+        }
+        if (one instanceof Enum) {
+            return held;
+        }
+        for (Field field : one.getClass().getDeclaredFields()) {
+            if (!Modifier.isStatic(field.getModifiers())) {
+                field.setAccessible(true);
+                held.add(field.getType().isPrimitive() ? null : field.get(one));
+            }
+        }
+        return held;
+    }
+
     private static String withoutComments(String code) {
         return code.replaceAll("(?s)/\\*.*?\\*/", "").replaceAll("//[^\n]*", "");
+    }
+
+    private static void library(String code) {
+        Set<String> own = new TreeSet<>(LIBRARY);
+        for (Class<?> one : CircleOfLeaves.class.getDeclaredClasses()) {
+            own.add(one.getSimpleName());
+        }
+        String codeAlone = code.replaceAll("\"[^\"]*\"", "\"\"");
+        Matcher matcher = Pattern.compile("\\b[A-Z]\\w*[a-z]\\w*\\b").matcher(codeAlone);
+        while (matcher.find()) {
+            is("a class of its own, or one that it may use: " + matcher.group(), own.contains(matcher.group()));
+        }
+        Matcher loaded = Pattern.compile("\\([A-Z]\\w*[a-z]\\w*\\)").matcher(codeAlone);
+        is("no cast among objects", !loaded.find());
+    }
+
+    /** Each loop counts up to a bound that stands in its own line. */
+    private static void loops(String code) {
+        Matcher matcher = Pattern.compile("\\bfor \\([^\\n]*\\{").matcher(code);
+        int count = 0;
+        while (matcher.find()) {
+            count++;
+            is("a loop with a bound: " + matcher.group(),
+                    matcher.group().matches("for \\(int (\\w+) = 0; .*\\b\\1 < [^;]*; \\1\\+\\+\\) \\{"));
+        }
+        is("all loops were seen", count > 0 && count == code.split("\\bfor\\b", -1).length - 1);
+    }
+
+    private static void constructorsThrowNothing(String code) {
+        Matcher matcher = Pattern.compile("(?ms)^( *)(?:public|private) [A-Z]\\w*\\(\\) \\{$(.*?)^\\1\\}$")
+                .matcher(code);
+        int count = 0;
+        while (matcher.find()) {
+            count++;
+            is("a constructor throws nothing", !matcher.group(2).contains("throw"));
+        }
+        is("constructors were seen: " + count, count == 2);
     }
 
     private static void exceptions(String code) {

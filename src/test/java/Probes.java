@@ -1,3 +1,5 @@
+import java.util.EnumMap;
+import java.util.Map;
 import java.util.function.Supplier;
 
 /**
@@ -5,47 +7,55 @@ import java.util.function.Supplier;
  * calls. Each run needs the state anew and makes fewer than 200 calls, so a state may take some 300 to come about.
  */
 final class Probes {
+    /** What a run of calls looks at. */
+    enum Kind {
+        QUESTIONS, LENGTHS, DRAFT, FIRST_FACTS, LAST_FACTS, ROWS, REFERENCES, PEOPLE, GIFTS, MONTHS, PRESS, VOLUMES
+    }
+
     private static final int ARTICLES = 24;
     private static final int CONTRIBUTORS = 6;
     private static final int VOLUMES = 4;
     private static final int SUBJECTS = 10;
     private static final int FACTS = 8;
-    private static final int KINDS = 12;
 
-    private final Calls x;
-    private final StringBuilder told;
+    private final Answering x;
+    private final StringBuilder told = new StringBuilder();
     private int count;
 
-    private Probes(Calls x, StringBuilder told) {
+    private Probes(Answering x) {
         this.x = x;
-        this.told = told;
     }
 
-    static String afterwards(Supplier<Calls> state) {
-        StringBuilder told = new StringBuilder();
-        for (int kind = 0; kind < KINDS; kind++) {
-            told.append("\nprobe ").append(kind).append(':');
-            new Probes(state.get(), told).probe(kind);
+    static String afterwards(Supplier<? extends Answering> state) {
+        return byKind(state).toString();
+    }
+
+    static Map<Kind, String> byKind(Supplier<? extends Answering> state) {
+        Map<Kind, String> all = new EnumMap<>(Kind.class);
+        for (Kind kind : Kind.values()) {
+            Probes probes = new Probes(state.get());
+            probes.probe(kind);
+            all.put(kind, probes.told.toString());
         }
-        return told.toString();
+        return all;
     }
 
-    private void probe(int kind) {
-        while (kind != 0 && count < ARTICLES && !x.told("about", count, 0).startsWith("java")) {
+    private void probe(Kind kind) {
+        while (kind != Kind.QUESTIONS && count < ARTICLES && !x.told("about", count, 0).startsWith("java")) {
             count++;
         }
         switch (kind) {
-            case 0: questions(); break;
-            case 1: lengths(); break;
-            case 2: draft(); break;
-            case 3: facts(0, FACTS / 2); break;
-            case 4: facts(FACTS / 2, FACTS); break;
-            case 5: rows(); break;
-            case 6: references(); break;
-            case 7: people(); break;
-            case 8: gifts(); break;
-            case 9: months(); break;
-            case 10: press(); break;
+            case QUESTIONS: questions(); break;
+            case LENGTHS: lengths(); break;
+            case DRAFT: draft(); break;
+            case FIRST_FACTS: facts(0, FACTS / 2); break;
+            case LAST_FACTS: facts(FACTS / 2, FACTS); break;
+            case ROWS: rows(); break;
+            case REFERENCES: references(); break;
+            case PEOPLE: people(); break;
+            case GIFTS: gifts(); break;
+            case MONTHS: months(); break;
+            case PRESS: press(); break;
             default: volumes(); break;
         }
     }

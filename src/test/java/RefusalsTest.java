@@ -31,7 +31,9 @@ public final class RefusalsTest extends Checks {
         look("a new one", States.FRESH);
         look("one with eight blanks", "draft ________");
         look("one with a letter", "draft _-_a");
+        look("one in the writing", States.WRITING);
         look("a lively one", States.LIVELY);
+        look("an eventful one", States.EVENTFUL);
         look("a full one", States.FULL);
         look("a finished one", States.FINISHED);
         System.out.println("refused calls: " + SEEN);
