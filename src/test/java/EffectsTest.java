@@ -34,6 +34,7 @@ public final class EffectsTest extends Checks {
         for (String state : TEXTS.keySet()) {
             drafts(state);
             people(state);
+            questions(state);
         }
         articles();
         uses();
@@ -91,6 +92,13 @@ public final class EffectsTest extends Checks {
         only(state, "contributor 7", QUESTIONS, PEOPLE, GIFTS, PRESS);
     }
 
+    private static void questions(String state) {
+        for (String question : new String[] {"month", "at 0", "about 0 2", "struck", "errata 1", "open true",
+            "contradictions true", "readAnew true", "synopsis 0"}) {
+            only(state, question);
+        }
+    }
+
     // An article more is seen everywhere, so there is nothing to name that it leaves as it was.
     private static void articles() {
         for (String state : TEXTS.keySet()) {
@@ -120,6 +128,8 @@ public final class EffectsTest extends Checks {
 
     private static void rows() {
         only(WRITING, "rule false", QUESTIONS, LENGTHS, DRAFT, ROWS, GIFTS, MONTHS, PRESS, VOLUMES);
+        only(WRITING, "rule false; erase; sign z", QUESTIONS, LENGTHS, DRAFT, ROWS, REFERENCES, GIFTS, MONTHS, PRESS,
+                VOLUMES);
         for (String state : TEXTS.keySet()) {
             only(state, "under 6 3", QUESTIONS, ROWS, PRESS);
             only(state, "under 9 0; under 4 NONE", QUESTIONS, ROWS, PRESS);

@@ -55,6 +55,7 @@ public final class RefusalsTest extends Checks {
 
     private static void look(String told, String state) {
         String before = Probes.afterwards(Script.state(state));
+        is(told + ": all that can be seen", before, Probes.afterwards(() -> Script.make(new Model(), state)));
         List<Call> harmless = new ArrayList<>();
         for (String name : Calls.NAMES) {
             int[][] ranges = ranges(name);
